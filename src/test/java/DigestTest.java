@@ -50,6 +50,21 @@ final class DigestTest {
         return hash;
     }
 
+    /** Shares up to 20 thirds, the ones near 1 among them. */
+    private static void manySteps() {
+        for (int slots = 1; slots <= 4; slots++) {
+            BuntingBundles x = new BuntingBundles();
+            for (int unit = 0; unit < 3; unit++) {
+                x.setSlots(unit, slots);
+            }
+            for (int step = 0; step < 20; step++) {
+                x.insert(step, step % 7, step % 12, (step + 3) % 12, step % 5, step - 99);
+                x.lay(step, 0);
+                Check.due("share " + x.filledShare(), digest(x, false, ""), x.digest());
+            }
+        }
+    }
+
     public static void main(String[] args) {
         BuntingBundles x = new BuntingBundles();
         Check.due("of a new object", digest(x, false, ""), x.digest());
@@ -82,6 +97,7 @@ final class DigestTest {
             x.setSlots(1, slots);
             Check.due("shares above 0", digest(x, true, ""), x.digest());
         }
+        manySteps();
         x.undo();
         Check.due("behind undo", digest(x, true, ""), x.digest());
         Check.due("twice the same", x.digest(), x.digest());

@@ -84,6 +84,17 @@ final class DoingTest {
         Check.due("the last one there", 6, x.registerInBundles(0));
         x.lay(0, 5);
         Check.due("the last one there", 7, x.registerInBundles(0));
+        Check.yes("the register 0 alone is unlike", !x.doesAgree());
+        BuntingBundles y = Check.with("l=7");
+        Check.yes("the register 11 alone is unlike", !y.doesAgree());
+        BuntingBundles z = Check.with("[a+0]=b");
+        z.setRegister(1, 5);
+        Check.yes("the cell 0 alone is unlike", !z.doesAgree());
+        z.lay(0, 50);
+        Check.yes("alike when it is done", z.doesAgree());
+        BuntingBundles w = Check.with("[a+11]=b");
+        w.setRegister(1, 5);
+        Check.yes("the cell 11 alone is unlike", !w.doesAgree());
     }
 
     private static void cellsInBundles() {

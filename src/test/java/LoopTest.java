@@ -76,6 +76,11 @@ final class LoopTest {
     private static void loops() {
         laid(new BuntingBundles(), 2);
         laid(Check.with(SUM_OF_SQUARES), 2, 0, 1, 5);
+        BuntingBundles x = Check.with("a=b*b;d=a+d");
+        x.setDelay(0);
+        laid(x, 1, 0, 3);
+        x.setRegister(1, 5);
+        Check.due("rounds one behind the other", 150, x.registerInLoop(6, 3));
         laid(Check.with("d=4;d=a*a"), 3, 0, 0);
         laid(Check.with("a=b*b;c=a*a;[e+1]=c;d=[e+2]"), 2, 0, 3, 6, 5);
         laid(Check.with("a=b*c;b=a*c"), 6, 0, 3);

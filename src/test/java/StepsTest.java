@@ -82,6 +82,21 @@ final class StepsTest {
         Check.throwing(x, "remove of none", IndexOutOfBoundsException.class, () -> x.remove(0));
         x.undo();
         Check.due("undo of remove", 1, x.steps());
+        BuntingBundles y = new BuntingBundles();
+        for (int i = 0; i < 20; i++) {
+            y.insert(i, BuntingBundles.SET, 0, 0, 0, i);
+            y.lay(i, i);
+        }
+        Check.due("remove one of 20", 19, y.remove(5));
+        Check.due("remove the last of 19", 18, y.remove(18));
+        y.insert(18, BuntingBundles.SET, 0, 0, 0, 0);
+        y.insert(19, BuntingBundles.SET, 0, 0, 0, 0);
+        Check.due("remove the last of 20", 19, y.remove(19));
+        y.insert(0, BuntingBundles.SET, 0, 0, 0, 0);
+        Check.due("remove the first of 20", 19, y.remove(0));
+        for (int i = 0; i < 18; i++) {
+            Check.due("the bundle of " + i, i < 5 ? i : i + 1, y.bundleOf(i));
+        }
     }
 
     private static void exchange() {
