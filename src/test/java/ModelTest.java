@@ -197,7 +197,11 @@ final class ModelTest {
         x.undo();
     }
 
+    /** A number as the argument makes other runs than the ones of each time. */
     public static void main(String[] args) {
+        if (args.length > 0) {
+            seed = Long.parseLong(args[0]);
+        }
         for (int run = 0; run < 400; run++) {
             BuntingBundles x = new BuntingBundles();
             Model m = new Model();
