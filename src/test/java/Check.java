@@ -6,6 +6,8 @@ final class Check {
 
     private static int checked = 0;
     private static int wrong = 0;
+    private static String sentence = "";
+    private static int checkedBefore = 0;
 
     private Check() {
     }
@@ -15,9 +17,25 @@ final class Check {
         if (want != got) {
             wrong++;
             if (wrong <= 30) {
-                System.out.println(what + " answered " + got + ", due is " + want);
+                System.out.println(sentence + what + " answered " + got + ", due is " + want);
             }
         }
+    }
+
+    /** The checks behind this are for a sentence of ../shared/DOC.md; it has to stand there. */
+    static void says(int promise, String words) {
+        endSentence();
+        boolean stands = Doc.has(promise, words);
+        sentence = "[" + promise + ": " + words + "] ";
+        yes("the document says so", stands);
+        checkedBefore = checked;
+    }
+
+    private static void endSentence() {
+        if (!sentence.isEmpty() && checked == checkedBefore) {
+            due("checks of this sentence", 1, 0);
+        }
+        sentence = "";
     }
 
     static void yes(String what, boolean holds) {
@@ -62,6 +80,7 @@ final class Check {
     }
 
     static void finish(String name) {
+        endSentence();
         System.out.println(name + ": " + checked + " checked, " + wrong + " wrong");
         if (wrong != 0 || checked == 0) {
             System.exit(1);
