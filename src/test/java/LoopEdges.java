@@ -213,6 +213,11 @@ final class LoopEdges {
         for (int latency = 1; latency <= 6; latency++) {
             loop(with("a=b*b;d=a+d", 1, latency), 2, 0, latency);
         }
+        BuntingBundles again = Check.with("a=b*b;d=a+d");
+        for (int latency : new int[] {6, 1, 5, 2}) {
+            again.setLatency(1, latency);
+            loop(again, 2, 0, latency);
+        }
         says(0, "but at most the beat less 1 further, in which its unit has a slot free (a slot is taken"
                 + " in all bundles that leave the same number, divided by the beat),");
         for (int latency = 1; latency <= 6; latency++) {
