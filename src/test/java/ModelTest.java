@@ -1,4 +1,7 @@
-/** Runs of calls by a fixed row of numbers, each call against the model, with wrong inputs too. */
+/**
+ * Runs of calls by a fixed row of numbers, each call against the model, with wrong inputs too, and
+ * objects with as many steps as there may be.
+ */
 final class ModelTest {
     private static long seed = 20261119L;
 
@@ -197,6 +200,43 @@ final class ModelTest {
         x.undo();
     }
 
+    /** As many steps as there may be, of few registers or many: the loops with the greatest beats. */
+    private static void full(int run) {
+        BuntingBundles x = new BuntingBundles();
+        Model m = new Model();
+        int registers = run % 12;
+        int way = run % 5;
+        for (int place = 0; place < 20; place++) {
+            int at = place;
+            int kind = way == 0 ? pick(0, 6) : way == 1 ? 3 : way == 2 ? 3 + 2 * pick(0, 1)
+                    : way == 3 ? pick(5, 6) : pick(2, 6);
+            int target = pick(0, registers);
+            int one = pick(0, registers);
+            int two = pick(0, registers);
+            int number = pick(-99, 99);
+            same(run, "insert", () -> x.insert(at, kind, target, one, two, number),
+                    () -> m.insert(at, kind, target, one, two, number));
+        }
+        for (int unit = 0; unit < 3; unit++) {
+            int u = unit;
+            int slots = pick(0, 1) == 0 ? 1 : pick(1, 4);
+            int latency = pick(0, 2) == 0 ? 6 : pick(1, 6);
+            same(run, "setSlots", () -> x.setSlots(u, slots), () -> m.setSlots(u, slots));
+            same(run, "setLatency", () -> x.setLatency(u, latency), () -> m.setLatency(u, latency));
+        }
+        int delay = pick(0, 3);
+        same(run, "setDelay", () -> x.setDelay(delay), () -> m.setDelay(delay));
+        for (int place = 0; place < 12; place++) {
+            int at = place;
+            int value = value();
+            same(run, "setRegister", () -> x.setRegister(at, value), () -> m.setRegister(at, value));
+            same(run, "setCell", () -> x.setCell(at, ~value), () -> m.setCell(at, ~value));
+        }
+        same(run, "pack", x::pack, m::pack);
+        same(run, "digest of a full one", x::digest, m::digest);
+        laws(run, x);
+    }
+
     /** A number as the argument makes other runs than the ones of each time. */
     public static void main(String[] args) {
         if (args.length > 0) {
@@ -216,6 +256,9 @@ final class ModelTest {
             }
             same(run, "digest", x::digest, m::digest);
             laws(run, x);
+        }
+        for (int run = 400; run < 520; run++) {
+            full(run);
         }
         Check.finish("ModelTest");
     }
